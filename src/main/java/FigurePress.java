@@ -40,6 +40,7 @@ public final class FigurePress {
     private final Forms forms;
 
     public FigurePress() {
+        // only one call is open at a time, so reckoning and writing may share these
         Natural one = new Natural();
         Natural two = new Natural();
         acts = new Acts(one, two);
@@ -444,13 +445,18 @@ public final class FigurePress {
         /** This times factor and extra, both below 2 to the 32. */
         void scale(long factor, long extra) {
             long carry = extra;
+            if (factor == 0) {
+                size = 0;
+            }
             for (int i = 0; i < size; i++) {
                 carry += limbs[i] * factor;
                 limbs[i] = carry & MASK;
                 carry >>>= 32;
             }
-            push(carry);
-            trim();
+            if (carry != 0 && size < ROOM) {
+                limbs[size] = carry;
+                size++;
+            }
         }
 
         void scaleByFives(int n) {
@@ -463,11 +469,6 @@ public final class FigurePress {
                 last *= 5;
             }
             scale(last, 0);
-        }
-
-        void scaleByTens(int n) {
-            scaleByFives(n);
-            shiftUp(n);
         }
 
         void shiftUp(int n) {
@@ -495,7 +496,10 @@ public final class FigurePress {
                 carry >>>= 32;
             }
             size = top;
-            push(carry);
+            if (carry != 0 && size < ROOM) {
+                limbs[size] = carry;
+                size++;
+            }
         }
 
         /** Only for another one that isn't greater. */
@@ -561,13 +565,6 @@ public final class FigurePress {
 
         private long limb(int i) {
             return i >= 0 && i < size ? limbs[i] : 0;
-        }
-
-        private void push(long top) {
-            if (top != 0 && size < ROOM) {
-                limbs[size] = top;
-                size++;
-            }
         }
 
         private void trim() {
@@ -1015,8 +1012,6 @@ public final class FigurePress {
             trim();
             if (on) {
                 addOneAt(unit, keep);
-            } else if (count == 0) {
-                top = 0;
             }
         }
 
@@ -1128,10 +1123,13 @@ public final class FigurePress {
         private int scaleToFirstFigure(Value v) {
             int ten = (int) Math.floorDiv((v.bits() + v.e - 1) * 30103L, 100000L);
             if (ten >= 0) {
-                unit.scaleByTens(ten);
+                unit.scaleByFives(ten);
+                unit.shiftUp(ten);
             } else {
-                left.scaleByTens(-ten);
-                reach.scaleByTens(-ten);
+                left.scaleByFives(-ten);
+                left.shiftUp(-ten);
+                reach.scaleByFives(-ten);
+                reach.shiftUp(-ten);
             }
             if (left.comparedWith(unit) < 0) {
                 left.scale(10, 0);
