@@ -574,9 +574,12 @@ public final class FigurePress {
         }
     }
 
-    /** Works results out exactly, or so far that the rest can only be told from nothing, and rounds them. */
+    /**
+     * Works results out exactly, or to so many bits that of the rest it only matters whether there
+     * is one, and rounds them once.
+     */
     private static final class Acts {
-        /** More than 53 and the bit behind them, so that what is behind can't be the half. */
+        /** The bits of the longer format, the half behind them, and some to spare. */
         private static final int QUOTIENT_BITS = 58;
         private static final int ROOT_BITS = 57;
         /** Beyond 10 to this power, and beneath 10 to its negative, the figures don't matter. */
