@@ -36,7 +36,6 @@ public final class FigurePress {
     private final Value third = new Value();
     private final Text tape = new Text();
     private final Acts acts;
-    private final Sheet sheet = new Sheet();
     private final Forms forms;
 
     public FigurePress() {
@@ -44,7 +43,7 @@ public final class FigurePress {
         Natural one = new Natural();
         Natural two = new Natural();
         acts = new Acts(one, two);
-        forms = new Forms(sheet, new Shortest(one, two), one);
+        forms = new Forms(new Shortest(one, two), one);
     }
 
     public void set(int r, int format, long pattern) throws IndexOutOfBoundsException, IllegalArgumentException {
@@ -183,11 +182,11 @@ public final class FigurePress {
         needWay(way);
         look(p, first);
         forms.print(first, form, n, way);
-        return sheet.length;
+        return forms.sheet.length;
     }
 
     public int letter(int i) {
-        return sheet.at(i);
+        return forms.sheet.at(i);
     }
 
     private static void needPlace(int p) {
@@ -1124,6 +1123,7 @@ public final class FigurePress {
 
         /** Makes the number 1 to 10 units; the power of ten of these. */
         private int scaleToFirstFigure(Value v) {
+            // for each power of two that a format has this is the power of ten at or next below it
             int ten = (int) Math.floorDiv((v.bits() + v.e - 1) * 30103L, 100000L);
             if (ten >= 0) {
                 unit.scaleByFives(ten);
@@ -1133,11 +1133,6 @@ public final class FigurePress {
                 left.shiftUp(-ten);
                 reach.scaleByFives(-ten);
                 reach.shiftUp(-ten);
-            }
-            if (left.comparedWith(unit) < 0) {
-                left.scale(10, 0);
-                reach.scale(10, 0);
-                return ten - 1;
             }
             work.copy(unit);
             work.scale(10, 0);
@@ -1229,13 +1224,12 @@ public final class FigurePress {
 
     /** Writes values onto the sheet. */
     private static final class Forms {
-        private final Sheet sheet;
+        final Sheet sheet = new Sheet();
         private final Shortest shortest;
         private final Natural work;
         private final Figures figures = new Figures();
 
-        Forms(Sheet sheet, Shortest shortest, Natural work) {
-            this.sheet = sheet;
+        Forms(Shortest shortest, Natural work) {
             this.shortest = shortest;
             this.work = work;
         }

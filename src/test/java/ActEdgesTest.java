@@ -250,6 +250,10 @@ public final class ActEdgesTest extends Edges {
         dueFour("add", FLOAT, 0x1p-151, 0x1p-151, 0, 0, FLOAT_LITTLE, 0);
         dueFour("add", FLOAT, -0x1p-151, -0x1p-151, -0.0, -0.0, -0.0, -FLOAT_LITTLE);
         dueFour("add", FLOAT, 0x1p-150, -0x1p-1074, 0, 0, FLOAT_LITTLE, 0);
+        // one bit longer than both, by 64 and by 96 bits
+        dueFour("add", DOUBLE, 0x1.fffffffffffffp63, 0x1p52, 0x1.001p64, 0x1.000ffffffffffp64, 0x1.001p64, 0x1.000ffffffffffp64);
+        dueFour("add", DOUBLE, 0x1.fffffffffffffp95, 0x1p52, 0x1.00000000001p96, 0x1.00000000000ffp96, 0x1.00000000001p96,
+            0x1.00000000000ffp96);
         // only one rounding: in DOUBLE first this would be the middle of two FLOATs
         dueFour("add", FLOAT, 0x1.000001p0, LITTLE, 0x1.000002p0, 1, 0x1.000002p0, 1);
         dueFour("add", FLOAT, 0x1.000003p0, -LITTLE, 0x1.000002p0, 0x1.000002p0, 0x1.000004p0, 0x1.000002p0);
@@ -295,6 +299,8 @@ public final class ActEdgesTest extends Edges {
             0x1.8000000000001p0);
         dueFour("times", DOUBLE, 1.5, 0x1.0000000000003p0, 0x1.8000000000004p0, 0x1.8000000000004p0, 0x1.8000000000005p0,
             0x1.8000000000004p0);
+        dueFour("times", DOUBLE, 0x1.fffffffffffffp52, 0x1.001p-1031, 0x1.000ffffffffffp-978, 0x1.000ffffffffffp-978,
+            0x1.001p-978, 0x1.000ffffffffffp-978);
         dueFour("times", DOUBLE, LITTLE, 0.5, 0, 0, LITTLE, 0);
         dueFour("times", DOUBLE, LITTLE, -0.5, -0.0, -0.0, -0.0, -LITTLE);
         dueFour("times", DOUBLE, LITTLE, 0x1.0000000000001p-1, LITTLE, 0, LITTLE, 0);

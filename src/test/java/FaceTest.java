@@ -143,7 +143,7 @@ public final class FaceTest {
             if (code.endsWith("{") && code.contains("FigurePress()")) {
                 making = true;
             }
-            boolean fine = making || code.contains("throw new ") || code.trim().startsWith("private final ");
+            boolean fine = making || code.contains("throw new ") || code.trim().matches("(private )?final .*");
             dueTrue("line " + (i + 1) + " makes something: " + line, fine || !code.contains("new "));
             boolean head = code.matches(" {4,8}[A-Za-z].*[)].*\\{");
             if (head) {

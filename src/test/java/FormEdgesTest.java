@@ -11,6 +11,7 @@ public final class FormEdgesTest extends Edges {
         fewestFigures();
         figuresAtTheMiddle();
         figuresBesidePowers();
+        figuresOfAllPowers();
         nearestOfThem();
         lesserOfTwo();
         sign();
@@ -33,6 +34,7 @@ public final class FormEdgesTest extends Edges {
         bytes();
         figuresThatAFormTakes();
         letters();
+        usedObjects();
         end();
     }
 
@@ -105,6 +107,23 @@ public final class FormEdgesTest extends Edges {
         dueDouble(POWERED, 0x1p-1017, "7.120236347223045e-307");
         dueDouble(POWERED, 0x1p-44, "5.684341886080802e-14");
         dueDouble(POWERED, 0x1p-1012, "2.2784756311113742e-305");
+    }
+
+    private static void figuresOfAllPowers() {
+        sentence("those of which d has the fewest figures;");
+        for (int power = LOWEST[DOUBLE]; power <= 1023; power++) {
+            double v = Math.scalb(1.0, power);
+            FigurePress x = with(v);
+            String text = written(x, POWERED, 0, NEAREST);
+            due("2 to the " + power + " leads back", bits(DOUBLE, Double.parseDouble(text)), bits(DOUBLE, v));
+            due("at most 17 figures in " + text, text.replaceAll("e.*|\\.", "").length() <= 17 ? 1 : 0, 1);
+            due("first figure in " + text, text.charAt(0) != '0' ? 1 : 0, 1);
+            if (power >= LOWEST[FLOAT] && power <= 127) {
+                text = written(with(FLOAT, bits(FLOAT, v)), POWERED, 0, NEAREST);
+                due("2 to the " + power + " leads back", bits(FLOAT, Float.parseFloat(text)), bits(FLOAT, v));
+                due("at most 9 figures in " + text, text.replaceAll("e.*|\\.", "").length() <= 9 ? 1 : 0, 1);
+            }
+        }
     }
 
     private static void nearestOfThem() {
@@ -313,6 +332,10 @@ public final class FormEdgesTest extends Edges {
         dueFour(123456, ROUNDED, 2, "1.2e5", "1.2e5", "1.3e5", "1.2e5");
         dueFour(150, ROUNDED, 1, "2e2", "1e2", "2e2", "1e2");
         dueFour(250, ROUNDED, 1, "2e2", "2e2", "3e2", "2e2");
+        dueFour(251, ROUNDED, 1, "3e2", "2e2", "3e2", "2e2");
+        dueFour(-249, ROUNDED, 1, "-2e2", "-2e2", "-2e2", "-3e2");
+        dueFour(201, ROUNDED, 1, "2e2", "2e2", "3e2", "2e2");
+        dueFour(-200, ROUNDED, 1, "-2e2", "-2e2", "-2e2", "-2e2");
         dueFour(10.5, ROUNDED, 2, "1.0e1", "1.0e1", "1.1e1", "1.0e1");
         dueFour(LITTLE, ROUNDED, 1, "5e-324", "4e-324", "5e-324", "4e-324");
         dueFour(-LITTLE, ROUNDED, 3, "-4.94e-324", "-4.94e-324", "-4.94e-324", "-4.95e-324");
@@ -518,6 +541,25 @@ public final class FormEdgesTest extends Edges {
         due("a shorter one", x.letter(0), '0');
         due("what the longer one had", x.letter(1), -1);
         due("its last", x.letter(1076), -1);
+    }
+
+    /** Whatever an object has written before, it writes as a new one does. */
+    private static void usedObjects() {
+        sentence("Byte i of what was written last; -1 without it.");
+        double[] values = {1, 6 * Float.MIN_VALUE, 0.1f, -0.0, 1048576.75, -INF, NAN, 33554472, 0.5, Float.MAX_VALUE};
+        for (int form = 0; form < 6; form++) {
+            for (double first : values) {
+                for (double second : values) {
+                    FigurePress x = new FigurePress();
+                    x.set(0, FLOAT, bits(FLOAT, second));
+                    x.set(1, FLOAT, bits(FLOAT, first));
+                    x.write(1, 5 - form, 7, UP);
+                    x.write(1, form, 7, UP);
+                    String want = written(with(FLOAT, bits(FLOAT, second)), form, 4, NEAREST);
+                    dueText(second + " after " + first + " form " + form, written(x, form, 4, NEAREST), want);
+                }
+            }
+        }
     }
 
     // ---- helpers

@@ -23,6 +23,7 @@ public final class TextEdgesTest extends Edges {
         wrongAtTheFarEnd();
         wrongChangesNoPlace();
         longTexts();
+        usedTapes();
         end();
     }
 
@@ -435,6 +436,27 @@ public final class TextEdgesTest extends Edges {
         due("middle with 0s above " + size, read(filled, format, NEAREST), even);
         due("a bit beyond the middle above " + size, read(filled + "1", format, NEAREST), size + 1);
         due("a bit beneath the middle above " + size, read(middle.subtract(bit).toPlainString(), format, NEAREST), size);
+    }
+
+    /** Whatever an object has read before, it reads as a new one does. */
+    private static void usedTapes() {
+        sentence("The tape (empty then) is read: 0, and place r becomes its value rounded to a format;");
+        String[] texts = {"7", "-7", "1e5", "1e-5", "1.25", ".5", "0x1", "0x1.8p4", "-0xap-3", "0", "-0", "inf", "-inf", "nan",
+            "1".repeat(300), "5e300", "5e-300", "0." + "0".repeat(300) + "5", "", "-", "in", "na", "1e", "1e+", "0x", "0x1p", ".",
+            "1x", "0xg", "e5", "1.5.", "12345678901234567890"};
+        for (String first : texts) {
+            for (String second : texts) {
+                FigurePress x = new FigurePress();
+                feed(x, first);
+                x.read(1, DOUBLE, UP);
+                feed(x, second);
+                FigurePress y = new FigurePress();
+                feed(y, second);
+                String what = "'" + shown(second) + "' after '" + shown(first) + "'";
+                due(what, x.read(0, DOUBLE, NEAREST), y.read(0, DOUBLE, NEAREST));
+                due("value of " + what, x.pattern(0), y.pattern(0));
+            }
+        }
     }
 
     // ---- helpers

@@ -15,6 +15,7 @@ public final class ValueEdgesTest extends Edges {
         signs();
         powers();
         whole();
+        oneAfterAnother();
         orderOfNumbers();
         orderOfOthers();
         stepsAtNought();
@@ -250,15 +251,33 @@ public final class ValueEdgesTest extends Edges {
         }
     }
 
+    /** Whatever value was told of before. */
+    private static void oneAfterAnother() {
+        for (int format = 0; format < 2; format++) {
+            long[] patterns = {0, LEAST, LEAST_FULL[format], ONE[format], GREATEST[format], ENDLESS[format], NONE[format], -1};
+            for (long first : patterns) {
+                for (long second : patterns) {
+                    FigurePress x = with(format, first);
+                    x.set(1, format, second);
+                    x.whole(0);
+                    sentence("Its m; 0 if it is no number.");
+                    due("m of " + second + " after " + first, x.whole(1), with(format, second).whole(0));
+                    x.told(0, 3);
+                    sentence("3 its e (0 of 3 and 4).");
+                    due("e of " + second + " after " + first, x.told(1, 3), with(format, second).told(0, 3));
+                }
+            }
+        }
+    }
+
     // ---- promise 9
 
     private static void orderOfNumbers() {
         sentence("How p's and q's values stand, whatever their formats: -1 below, 0 the same (noughts are), 1 above;");
         double[] rising = {-INF, -0x1.fffffffffffffp1023, -0x1.ffffff0000001p127, -0x1.fffffep127, -1, -0x1p-126,
-            -0x1.0000000000001p-149, -0x1p-149, -0x1.fffffffffffffp-150, -0x1p-1074, 0, 0x1p-1074, 0x1.fffffffffffffp-150,
-            0x1p-149, 0x1.0000000000001p-149, 0x1p-1022, 0x1.fffffep-127, 0x1p-126, 1, 0x1.0000000000001p0, 0x1.000002p0,
-            0x1.fffffep127, 0x1.ffffff0000001p127, 0x1.fffffffffffffp1023, INF};
-        java.util.Arrays.sort(rising);
+            -0x1.0000000000001p-149, -0x1p-149, -0x1.fffffffffffffp-150, -0x1p-1022, -0x1p-1074, 0, 0x1p-1074, 0x1p-1022,
+            0x1.fffffffffffffp-150, 0x1p-149, 0x1.0000000000001p-149, 0x1.fffffep-127, 0x1p-126, 1, 0x1.0000000000001p0,
+            0x1.000002p0, 0x1.fffffep127, 0x1.ffffff0000001p127, 0x1.fffffffffffffp1023, INF};
         for (int i = 0; i < rising.length; i++) {
             for (int j = 0; j < rising.length; j++) {
                 dueOrder(rising[i], rising[j], Integer.compare(i, j));

@@ -148,11 +148,17 @@ abstract class Edges {
         }
     }
 
+    /** What is written of place 0; by another object like this one where its 512 calls would not be enough. */
     static String written(FigurePress x, int form, int n, int way) {
         int length = x.write(0, form, n, way);
         StringBuilder text = new StringBuilder();
+        FigurePress y = x;
         for (int i = 0; i < length; i++) {
-            text.append((char) x.letter(i));
+            if (i % 400 == 399) {
+                y = with(x.told(0, 0), x.pattern(0));
+                y.write(0, form, n, way);
+            }
+            text.append((char) y.letter(i));
         }
         return text.toString();
     }
