@@ -18,36 +18,14 @@ import java.util.regex.Pattern;
 
 /** The class's face as the document has it, the language rules that can be seen, and the room it takes. */
 public final class FaceTest {
-    private static final String INDEX = "IndexOutOfBoundsException";
-    private static final String BOTH = INDEX + ", IllegalArgumentException";
-    private static final String[] FACE = {
-        "void set(int, int, long) throws " + BOTH,
-        "long pattern(int) throws " + INDEX,
-        "int told(int, int) throws " + BOTH,
-        "long whole(int) throws " + INDEX,
-        "void convert(int, int, int, int) throws " + BOTH,
-        "void from(int, int, long, int) throws " + BOTH,
-        "long to(int, int) throws " + BOTH + ", ArithmeticException",
-        "int order(int, int) throws " + INDEX,
-        "void step(int, boolean) throws " + INDEX,
-        "void add(int, int, int, int) throws " + BOTH,
-        "void less(int, int, int, int) throws " + BOTH,
-        "void times(int, int, int, int) throws " + BOTH,
-        "void over(int, int, int, int) throws " + BOTH,
-        "void fused(int, int, int, int) throws " + BOTH,
-        "void root(int, int, int) throws " + BOTH,
-        "int feed(long, int) throws IllegalArgumentException",
-        "int read(int, int, int) throws " + BOTH,
-        "int write(int, int, int, int) throws " + BOTH,
-        "int letter(int)",
-    };
+    private static final String DOCUMENT = "../shared/DOC.md";
     private static final String SOURCE = "src/main/java/FigurePress.java";
     private static final int MOST_ELEMENTS = 6000;
 
     private static int wrong = 0;
 
     public static void main(String[] args) throws Exception {
-        face();
+        face(writtenFace(Files.readAllLines(Path.of(DOCUMENT))));
         classesInside();
         source(Files.readAllLines(Path.of(SOURCE)));
         room();
@@ -57,8 +35,28 @@ public final class FaceTest {
         }
     }
 
-    private static void face() {
-        Set<String> want = new TreeSet<>(Arrays.asList(FACE));
+    /** The calls that the document's face has, without the names of what they take. */
+    private static Set<String> writtenFace(List<String> document) {
+        Set<String> calls = new TreeSet<>();
+        Set<String> promised = new TreeSet<>();
+        for (String line : document) {
+            if (line.matches(" {4}public \\w+ \\w+\\(.*;")) {
+                calls.add(line.replaceAll("^ *public |;$", ""));
+            }
+            if (line.matches("`\\w+ \\w+\\(.*`:.*")) {
+                promised.add(line.substring(1, line.indexOf('`', 1)));
+            }
+        }
+        dueTrue("the document has a face", calls.size() == 19);
+        dueTrue("the promises are of " + calls + ", but were of " + promised, calls.equals(promised));
+        Set<String> bare = new TreeSet<>();
+        for (String call : calls) {
+            bare.add(call.replaceAll("(int|long|boolean) \\w+([,)])", "$1$2"));
+        }
+        return bare;
+    }
+
+    private static void face(Set<String> want) {
         Set<String> got = new TreeSet<>();
         Set<String> names = new TreeSet<>();
         for (Method method : FigurePress.class.getDeclaredMethods()) {

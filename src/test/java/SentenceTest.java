@@ -8,7 +8,7 @@ import java.util.List;
 import java.util.regex.Matcher;
 import java.util.regex.Pattern;
 
-/** Each sentence of the document's terms and promises is named by one of the tests of edges, in its own words. */
+/** Each sentence of the document, up to what it doesn't promise, is named in its own words by a test of edges. */
 public final class SentenceTest extends Edges {
     private static final Path TESTS = Path.of("src/test/java");
     /** Texts in a test's source, with those that are joined to them. */
@@ -16,16 +16,17 @@ public final class SentenceTest extends Edges {
     private static final Pattern JOIN = Pattern.compile("\"\\s*\\+\\s*\"");
     /** Shorter ones may stand in the document by chance. */
     private static final int SHORTEST_QUOTE = 8;
-    /** What stands ahead of sentences: headings, the calls of the face, and the names of the terms. */
+    /** What stands beside sentences: headings, the face, which FaceTest looks at, and the names of the terms. */
     private static final Pattern NO_SENTENCE = Pattern.compile(
-        "## Promise \\d+: [^`]*`[^`]*`:|## Terms|\\d\\. FORMATS: |\\d\\. ROUNDING|\\d\\. ACTS on values, |\\d\\. FIGURES\\. ");
+        "## What it is|## The public face .*?\\} |## Promise \\d+: [^`]*`[^`]*`:|## Terms"
+            + "|\\d\\. FORMATS: |\\d\\. ROUNDING|\\d\\. ACTS on values, |\\d\\. FIGURES\\. ");
 
     public static void main(String[] args) throws IOException {
         String document = document();
-        int begin = document.indexOf("## Terms");
+        int begin = document.indexOf("## What it is");
         int end = document.indexOf("## Not promised");
         if (begin < 0 || end < begin) {
-            System.out.println("the document has no terms and promises");
+            System.out.println("the document does not say what it is, and what is not promised");
             System.exit(1);
         }
         String sentences = document.substring(begin, end);
